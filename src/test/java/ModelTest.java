@@ -12,6 +12,8 @@ public final class ModelTest {
     private OneEye x;
     private Model y;
     private int calls;
+    // Each run has three FACTS alone, so that what is said of them meets.
+    private int firstFact;
 
     public static void main(String[] args) {
         ModelTest test = new ModelTest();
@@ -26,6 +28,7 @@ public final class ModelTest {
         x = new OneEye();
         y = new Model();
         calls = 0;
+        firstFact = random.nextInt(8);
         int threes = 1 + random.nextInt(4);
         boolean clumsy = random.nextBoolean();
         for (int t = 0; t < threes; t++) {
@@ -33,7 +36,7 @@ public final class ModelTest {
             int drop = clumsy ? random.nextInt(500) : 0;
             due("three", x.three(hand, drop), y.three(hand, drop));
         }
-        while (calls < CALLS - 110 && !check.anyWrong()) {
+        while (calls < CALLS - 180 && !check.anyWrong()) {
             int sort = random.nextInt(100);
             if (sort < 25) {
                 plan();
@@ -103,7 +106,7 @@ public final class ModelTest {
     private String step() {
         int last = Math.max(0, y.look(0) - 1);
         String thing = SIGNS[7 + random.nextInt(3)];
-        int f = random.nextInt(3);
+        int f = firstFact + random.nextInt(3);
         return switch (random.nextInt(9)) {
             case 0, 1 -> "give " + thing + " " + random.nextInt(3);
             case 2, 3 -> "see " + f;
@@ -141,7 +144,7 @@ public final class ModelTest {
     }
 
     private void tell() {
-        int a = upTo(9);
+        int a = random.nextInt(3) == 0 ? firstFact + random.nextInt(3) : upTo(9);
         int b = upTo(2);
         int c = upTo(2);
         int t = aThree();
@@ -186,7 +189,7 @@ public final class ModelTest {
     private void ask() {
         int t = aThree();
         int u = aThree();
-        int f = random.nextInt(4) == 0 ? upTo(9) : random.nextInt(3);
+        int f = random.nextInt(4) == 0 ? upTo(9) : firstFact + random.nextInt(3);
         int p = aPerson();
         int what = upTo(4);
         int n = upTo(random.nextBoolean() ? 3 : 12);
@@ -230,8 +233,11 @@ public final class ModelTest {
             due("heard(" + p + ")", x.heard(p), y.heard(p));
             int thing = random.nextInt(3);
             due("held(" + p + ")", x.held(p, thing), y.held(p, thing));
-            int f = random.nextInt(3);
+            int f = firstFact + random.nextInt(3);
             due("knows(" + p + ")", x.knows(p, f), y.knows(p, f));
+            for (int what = 0; what < 4; what++) {
+                due("origin(" + p + ", " + f + ", " + what + ")", x.origin(p, f, what), y.origin(p, f, what));
+            }
         }
         for (int what = 0; what < 20; what++) {
             due("look(" + what + ")", x.look(what), y.look(what));

@@ -258,6 +258,11 @@ public final class PromisesTest {
         faultIs(x, "see -3;", 1, 4);
         faultIs(x, "see " + (char) 233 + ";", 1, 4);
         faultIs(x, "see 3.", 1, 5);
+        faultIs(x, ";".repeat(400), 1, 0);
+        faultIs(x, "a1".repeat(200), 1, 0);
+        faultIs(x, "say" + " ".repeat(397), 1, 400);
+        faultIs(x, "x".repeat(400), 1, 0);
+        faultIs(x, "see " + "1".repeat(396), 1, 4);
         check.due("none", Check.plan(x, 0, "see 3;"), 1);
         check.due("fault(0)", x.fault(0), 0);
         check.due("fault(1)", x.fault(1), -1);
@@ -969,11 +974,64 @@ public final class PromisesTest {
         Check.plan(x, 0, "see 3;lie 3 to 0;");
         x.minutes(2);
         check.due("trusts again", x.knows(0, 3), 1);
+        imageKeepsWhatWasThere();
         // What is told behind the taking does not come into the image.
         x.image(true);
         x.fact(5, true);
         x.image(false);
         check.due("look(15)", x.look(15), 0);
+    }
+
+    private static void imageKeepsWhatWasThere() {
+        OneEye x = new OneEye();
+        x.three(2, 0);
+        x.three(1, 0);
+        x.fact(7, true);
+        Check.plan(x, 0, "see 7;say 7 to 1;rest 9;");
+        x.noise(4);
+        x.minutes(3);
+        x.trust(3, 0, false);
+        x.spot(2, 9, 9);
+        x.danger(0, 2, 2, 9);
+        x.danger(0, 1, 2, 9);
+        x.danger(0, 0, 2, 9);
+        x.lends(0, 0, 1, true);
+        x.lends(1, 1, 0, true);
+        x.watch(7);
+        x.image(true);
+        Check.plan(x, 0, "give eye 1;lie 7 to 0;lie 7 to 1;");
+        Check.plan(x, 1, "see 7;lie 7 to 1;give ear 2;");
+        x.fact(7, false);
+        x.minutes(20);
+        x.trust(3, 0, true);
+        x.spot(2, 1, 1);
+        x.danger(0, 0, 2, 0);
+        x.lends(0, 0, 1, false);
+        x.watch(9);
+        x.image(false);
+        originIs(x, 3, 0, 0, 1, 0);
+        originIs(x, 0, 0, 0, 0, 0);
+        check.due("knows(3, 7)", x.knows(3, 7), 1);
+        check.due("look(17)", x.look(17), 1);
+        check.due("look(2)", x.look(2), 1);
+        check.due("look(3)", x.look(3), 1);
+        check.due("where(0, 0)", x.where(0, 0), 0);
+        check.due("where(1, 1)", x.where(1, 1), 0);
+        check.due("of(0, 4)", x.of(0, 4), 3);
+        check.due("of(0, 5)", x.of(0, 5), 3);
+        check.due("of(0, 6)", x.of(0, 6), 8);
+        check.due("of(1, 4)", x.of(1, 4), 0);
+        check.due("held(0, 0)", x.held(0, 0), 3);
+        check.due("heard(3)", x.heard(3), 0);
+        check.due("felt()", x.felt(), 81);
+        check.due("way", x.way(1, 0, 0), 9);
+        check.due("ring()", x.ring(), 3);
+        check.due("watches(0)", x.watches(0), 7);
+        x.minutes(2);
+        check.due("heard(3)", x.heard(3), 1);
+        Check.plan(x, 0, "lie 7 to 1;");
+        x.minutes(1);
+        check.due("does not trust", x.knows(3, 7), 1);
     }
 
     private static void look() {
