@@ -397,8 +397,8 @@ public final class OneEye {
         }
 
         int holderOf(int asked) {
-            int place = placeOf(asked);
-            return within(place, 0, MEMBERS - 1) ? place : NONE;
+            boolean held = within(asked, 0, THINGS - 1) && within(places[asked], 0, MEMBERS - 1);
+            return held ? places[asked] : NONE;
         }
 
         /** Who has a THING once hand-overs are done, none dropped and nothing lies on a SPOT. */
@@ -732,7 +732,8 @@ public final class OneEye {
         }
 
         Person personOf(int t, int member) {
-            return within(member, 0, MEMBERS - 1) ? personAt(MEMBERS * t + member) : null;
+            boolean there = within(t, 0, count - 1) && t < MOST_THREES && within(member, 0, MEMBERS - 1);
+            return there ? people[MEMBERS * t + member] : null;
         }
 
         int addThree(int hand, int drop) {
@@ -973,7 +974,7 @@ public final class OneEye {
             count = 0;
             current = 0;
             int at = endOfRun(0, BLANK);
-            while (at < length) {
+            for (int i = 0; i < MOST_BYTES && at < length; i++) {
                 int sort = sortOf(signAt(at));
                 int behind = sort == OTHER ? at + 1 : endOfRun(at, sort);
                 takeToken(sort, at, behind);
@@ -1271,20 +1272,18 @@ public final class OneEye {
         private static final int LONGEST = 81;
         private static final int FAR = 1 << 28;
 
-        private final int[] order = new int[SPOTS];
         private final int[] least = new int[LONGEST + 1];
 
         int leastSum(int[] weights, int[] times) {
-            sortSpots(weights, times);
             Arrays.fill(least, FAR);
             least[0] = 0;
             int gone = 0;
+            int dealt = 0;
             for (int i = 0; i < SPOTS; i++) {
-                int s = order[i];
-                if (within(s, 0, SPOTS - 1)) {
-                    dealOut(weights[s], times[s], gone);
-                    gone += times[s];
-                }
+                int s = worthiestBut(dealt, weights, times);
+                dealOut(weights[s], times[s], gone);
+                gone += times[s];
+                dealt = withBit(dealt, s, true);
             }
             int best = FAR;
             for (int first = 0; first <= LONGEST; first++) {
@@ -1293,15 +1292,15 @@ public final class OneEye {
             return best;
         }
 
-        private void sortSpots(int[] weights, int[] times) {
-            for (int s = 0; s < SPOTS; s++) {
-                int i = s;
-                while (i > 0 && weights[s] * times[order[i - 1]] > weights[order[i - 1]] * times[s]) {
-                    order[i] = order[i - 1];
-                    i--;
+        private int worthiestBut(int dealt, int[] weights, int[] times) {
+            int best = 0;
+            for (int s = 1; s < SPOTS; s++) {
+                boolean worthier = weights[s] * times[best] > weights[best] * times[s];
+                if (!holdsBit(dealt, s) && (worthier || holdsBit(dealt, best))) {
+                    best = s;
                 }
-                order[i] = s;
             }
+            return best;
         }
 
         // From the longest down: a sum that moves up must not be dealt the same SPOT again.
