@@ -348,6 +348,16 @@ public final class PromisesTest {
         y.minutes(1);
         check.due("of(0, 2)", y.of(0, 2), 1);
         check.due("look(4)", y.look(4), state);
+        // A hand-over draws if DROP is above 0 alone; the first draw is the SUNSET's.
+        for (int drop = 0; drop <= 1; drop++) {
+            OneEye z = new OneEye();
+            z.three(1, drop);
+            Check.plan(z, 0, "give eye 1;");
+            z.minutes(1);
+            int sunset = 1013904223;
+            check.due("look(4)", z.look(4), drop == 0 ? sunset : 1664525 * sunset + 1013904223);
+            check.due("where(0, 0)", z.where(0, 0), 1);
+        }
         // The edge of DROP: a draw that is not below it does not fall.
         for (int more = 0; more <= 1; more++) {
             OneEye z = new OneEye();
