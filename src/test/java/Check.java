@@ -22,6 +22,10 @@ final class Check {
         due(call, got ? 1 : 0, want ? 1 : 0);
     }
 
+    int done() {
+        return done;
+    }
+
     boolean anyWrong() {
         return wrong > 0;
     }
