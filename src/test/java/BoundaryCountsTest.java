@@ -279,6 +279,26 @@ public final class BoundaryCountsTest {
         }
     }
 
+    @Says("what 0 who, 1 the FACT, 2 1 or 0, 3 who heard it, 4 MINUTE")
+    static void promise18_eachSayerAndEachHearer() {
+        for (int p = 0; p < 12; p++) {
+            for (int q = 0; q < 12; q++) {
+                OneEye x = Edge.threes(4);
+                if (p / 3 != q / 3) {
+                    Check.plan(x, q / 3, "give ear " + q % 3 + ";");
+                }
+                String ear = p / 3 == q / 3 ? "give ear " + q % 3 + ";" : "rest 1;";
+                String eyeAndMouth = "give eye " + p % 3 + ";see 0;give mouth " + p % 3 + ";";
+                Check.plan(x, p / 3, ear + eyeAndMouth + "say 0 to " + q / 3 + ";");
+                x.minutes(5);
+                check.due("lines", x.look(2), 1);
+                check.due("who", x.book(0, 0), p);
+                check.due("who heard it", x.book(0, 3), q);
+                check.due("MINUTE", x.book(0, 4), 4);
+            }
+        }
+    }
+
     @Says("THE BOOK of sayings (99 at most; no more then)")
     static void promise18_no100thLine() {
         OneEye x = Edge.threes(2);

@@ -24,6 +24,9 @@ public final class BoundaryImageTest {
         x.danger(0, 0, 0, 0);
         x.danger(3, 0, 2, 8);
         x.danger(3, 2, 2, 8);
+        x.danger(11, 2, 1, 0);
+        x.danger(11, 0, 1, 9);
+        x.danger(11, 1, 1, 9);
         x.spot(0, 0, 9);
         x.spot(3, 30, 9);
         x.watch(30);
@@ -31,6 +34,12 @@ public final class BoundaryImageTest {
         x.lends(1, 2, 1, true);
         x.lends(2, 1, 2, true);
         x.minutes(600);
+        // What was thought out of these words must not stay either.
+        x.liars();
+        x.felt();
+        x.watches(0);
+        x.way(12, 0, 0);
+        x.talk(0, 1, 1);
     }
 
     /** Makes TAPE and fault() alike, which THE IMAGE does not keep. */
@@ -73,6 +82,36 @@ public final class BoundaryImageTest {
             x.image(false);
             forgetTape(x);
         });
+    }
+
+    @Says("all that is and was told but the TAPE and fault(), as it was when it was taken")
+    static void promise30_whatIsKnownAndSaidIsAsItWas() {
+        knownAndSaidIsAsItWas(true);
+        knownAndSaidIsAsItWas(false);
+    }
+
+    private static void knownAndSaidIsAsItWas(boolean so) {
+        OneEye x = Edge.threes(2);
+        x.fact(4, so);
+        Check.plan(x, 0, "see 4;lie 4 to 1;");
+        x.minutes(2);
+        x.image(true);
+        x.fact(4, !so);
+        Check.plan(x, 1, "give eye 1;give ear 1;see 4;give mouth 1;say 4 to 1;lie 4 to 1;give ear 0;"
+            + "lie 4 to 1;lie 4 to 0;");
+        x.minutes(9);
+        check.due("it was said both so and not so", x.liars() != 0, true);
+        x.image(false);
+        int[] due = {0, 0, 1, 1};
+        for (int what = 0; what < 4; what++) {
+            check.due("origin(3, 4, " + what + ")", x.origin(3, 4, what), due[what]);
+            check.due("origin(0, 4, " + what + ")", x.origin(0, 4, what), 0);
+            check.due("origin(4, 4, " + what + ")", x.origin(4, 4, what), -1);
+        }
+        check.due("knows(3, 4)", x.knows(3, 4), so ? 2 : 1);
+        check.due("knows(0, 4)", x.knows(0, 4), so ? 1 : 2);
+        check.due("it was said once", x.liars(), 0);
+        check.due("lines", x.look(2), 1);
     }
 
     @Says("THE IMAGE is taken (true)")

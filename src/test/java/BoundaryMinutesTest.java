@@ -331,7 +331,8 @@ public final class BoundaryMinutesTest {
     @Says("the MEMBER with the least number who has no THING has it")
     static void promise10_leastMemberWithoutAThingHasWhatIsFelt() {
         // The others' places, then who has none: MEMBERS 0, 1 or 2, by the least.
-        int[][] due = {{0, 0, 1}, {0, 1, 2}, {0, 2, 1}, {1, 0, 2}, {1, 1, 0}, {1, 2, 0}, {2, 0, 1}, {2, 1, 0}, {2, 2, 0}};
+        int[][] due = {{0, 0, 1}, {0, 1, 2}, {0, 2, 1}, {1, 0, 2}, {1, 1, 0}, {1, 2, 0}, {2, 0, 1}, {2, 1, 0},
+            {2, 2, 0}};
         for (int thing = 0; thing < 3; thing++) {
             for (int[] row : due) {
                 feltBy(thing, row[0], row[1], row[2]);
@@ -631,6 +632,21 @@ public final class BoundaryMinutesTest {
         check.due("lines", x.look(2), 3);
     }
 
+    @Says("the latter hears it as it is KNOWN; lie: the other way round")
+    static void promise12_eachFactCanBeHeard() {
+        for (int f = 0; f < 10; f++) {
+            OneEye x = Edge.threes(2);
+            x.fact(f, true);
+            Check.plan(x, 0, "see " + f + ";say " + f + " to 1;lie " + f + " to 1;");
+            x.minutes(2);
+            for (int g = 0; g < 10; g++) {
+                check.due("FACT " + g, x.knows(3, g), g == f ? 1 : 0);
+            }
+            x.minutes(1);
+            check.due("a lie", x.knows(3, f), 2);
+        }
+    }
+
     // ---- Promise 13
 
     @Says("NONE if one can't be (nothing is KNOWN), or another what.")
@@ -709,5 +725,18 @@ public final class BoundaryMinutesTest {
         check.due("heard of", x.origin(0, 4, 0), 3);
         check.due("seen in", x.origin(0, 4, 1), 5);
         check.due("sayings", x.origin(0, 4, 2), 1);
+    }
+
+    @Says("(what one sees anew, or hears and TRUSTS, has a new ORIGIN")
+    static void promise13_liesAreOverWhenItIsSeenAnew() {
+        OneEye x = Edge.threes(2);
+        Check.plan(x, 0, "see 4;lie 4 to 1;lie 4 to 1;say 4 to 1;");
+        Check.plan(x, 1, "rest 2;see 4;");
+        int[] lies = {0, 1, 0, 0};
+        for (int i = 1; i < 4; i++) {
+            x.minutes(i == 1 ? 2 : 1);
+            check.due("lies behind MINUTE " + i, x.origin(3, 4, 3), lies[i]);
+        }
+        check.due("heard behind the lies", x.origin(3, 4, 2), 1);
     }
 }

@@ -289,7 +289,8 @@ public final class BoundaryTapeTest {
     @Says("3 (at its KEYWORD) the 31st STEP")
     static void promise08_the31stStepIsAFault() {
         OneEye x = Edge.threes(1);
-        for (String step : new String[] {"give eye 1;", "see 1;", "say 1 to 0;", "lie 1 to 0;", "rest 1;", "feel ear 1;"}) {
+        String[] steps = {"give eye 1;", "see 1;", "say 1 to 0;", "lie 1 to 0;", "rest 1;", "feel ear 1;"};
+        for (String step : steps) {
             faultIs(x, THIRTY + step, 3, 180);
             faultIs(x, THIRTY + " \n " + step, 3, 183);
         }
@@ -304,6 +305,17 @@ public final class BoundaryTapeTest {
         check.due("length", text.length(), 400);
         stepsAre(x, text, 29);
         faultIs(x, text.substring(0, 399) + " ", 1, 400);
+    }
+
+    @Says("FAULTS, the first by its place")
+    static void promise08_400BytesCanBe400Tokens() {
+        OneEye x = Edge.threes(1);
+        faultIs(x, ";".repeat(400), 1, 0);
+        faultIs(x, "a1".repeat(200), 1, 0);
+        faultIs(x, "see 1" + ";".repeat(395), 1, 6);
+        faultIs(x, "1".repeat(400), 1, 0);
+        faultIs(x, "x".repeat(400), 1, 0);
+        faultIs(x, "see " + "1".repeat(396), 1, 4);
     }
 
     @Says("M: a MEMBER")
@@ -555,8 +567,8 @@ public final class BoundaryTapeTest {
     @Says("are KEYWORDS (give, see, say, lie, rest, feel, to, eye, ear, mouth) or none")
     static void promise09_wordsThatAreNearlyKeywords() {
         OneEye x = Edge.threes(1);
-        for (String word : new String[] {"se", "sees", "seee", "see" + "e".repeat(300), "gives", "giv", "mouths", "resting",
-            "SEE", "See", "seE", "x", "l", "feell"}) {
+        for (String word : new String[] {"se", "sees", "seee", "see" + "e".repeat(300), "gives", "giv", "mouths",
+            "resting", "SEE", "See", "seE", "x", "l", "feell"}) {
             faultIs(x, word + " 1;", 1, 0);
         }
         for (String thing : new String[] {"ey", "eyes", "ea", "ears", "mout", "mouths", "moutj", "Eye"}) {

@@ -185,8 +185,8 @@ public final class BoundaryThoughtsTest {
         check.due("one of the six", x.talk(2, 1, 1), 9);
     }
 
-    @Says("the fewest acts (a hand-over in one of both; who has a MOUTH and KNOWS it says it to one who has an EAR, of either)"
-        + " by which all six KNOW")
+    @Says("the fewest acts (a hand-over in one of both; who has a MOUTH and KNOWS it says it to one who has an EAR,"
+        + " of either) by which all six KNOW")
     static void promise20_allSixKnowIs0() {
         OneEye x = Edge.threes(2);
         String all = "see 1;give eye 1;see 1;give eye 2;see 1;";
@@ -213,6 +213,27 @@ public final class BoundaryThoughtsTest {
         Check.plan(x, 1, "give ear 0;");
         x.minutes(1);
         check.due("the EAR goes over first", x.talk(0, 1, 1), 2);
+    }
+
+    @Says("a hand-over in one of both")
+    static void promise20_mouthGoesToTheOneWhoKnows() {
+        // All things with one MEMBER of each; one of the six KNOWS it: five must hear it, an EAR goes over for all of
+        // them but the two who have one; and the MOUTH goes over first, if it is not his.
+        for (int things = 0; things < 9; things++) {
+            for (int who = 0; who < 6; who++) {
+                OneEye x = Edge.threes(2);
+                int[] has = {things / 3, things % 3};
+                for (int t = 0; t < 2; t++) {
+                    String see = who / 3 == t ? "give eye " + who % 3 + ";see 1;" : "";
+                    Check.plan(x, t, see + "give ear " + has[t] + ";give mouth " + has[t] + ";");
+                }
+                x.minutes(9);
+                boolean his = has[who / 3] == who % 3;
+                check.due("things " + things + ", who " + who, x.talk(0, 1, 1), 9);
+                check.due("told the other way round", x.talk(1, 0, 1), 9);
+                check.due("the MOUTH is his", x.where(who / 3, 2) == who % 3, his);
+            }
+        }
     }
 
     @Says("(Things as in ERRANDS.)")
@@ -495,6 +516,38 @@ public final class BoundaryThoughtsTest {
         check.due("felt()", y.felt(), 90);
     }
 
+    @Says("each one SPOT behind another one, each SPOT by one of them")
+    static void promise24_heavyAndShortComeFirst() {
+        OneEye x = new OneEye();
+        x.spot(0, 1, 1);
+        x.spot(1, 50, 1);
+        x.spot(2, 99, 9);
+        // 50 in 1, then 1 in 1, by the one: 50 + 2; 99 in 9 by the other one.
+        check.due("felt()", x.felt(), 943);
+        OneEye y = new OneEye();
+        y.spot(8, 90, 9);
+        y.spot(7, 9, 1);
+        y.spot(6, 40, 5);
+        // 90 in 9 and 9 in 1 apart, 40 in 5 behind the short one: 810 + 9 + 240.
+        check.due("felt()", y.felt(), 1059);
+        y.spot(5, 1, 9);
+        // 1 in 9 behind 6 or 9 gone: behind the shorter.
+        check.due("felt()", y.felt(), 1059 + 15);
+    }
+
+    @Says("WEIGHT times the time till it was felt, added over all SPOTS, is least: how much.")
+    static void promise24_allNineUnlike() {
+        int[][] spots = {{99, 1}, {1, 9}, {50, 5}, {10, 1}, {70, 8}, {99, 9}, {3, 1}, {20, 4}, {98, 9}};
+        // Each SPOT is told in each place once: which number it has is all the same.
+        for (int turn = 0; turn < 9; turn++) {
+            OneEye x = new OneEye();
+            for (int s = 0; s < 9; s++) {
+                x.spot((s + turn) % 9, spots[s][0], spots[s][1]);
+            }
+            check.due("felt(), turned by " + turn, x.felt(), 4545);
+        }
+    }
+
     // ---- Promise 25
 
     @Says("LIARS, as a set.")
@@ -519,10 +572,13 @@ public final class BoundaryThoughtsTest {
     @Says("without whose sayings no FACT was said both so and not so")
     static void promise25_oneWhoSaidBoth() {
         for (int p = 0; p < 12; p++) {
-            OneEye x = Edge.threes(4);
-            Check.plan(x, p / 3, "give eye " + p % 3 + ";see 9;give mouth " + p % 3 + ";say 9 to 0;lie 9 to 0;");
-            x.minutes(5);
-            check.due("person " + p, x.liars(), 1 << p);
+            for (int f = 0; f < 10; f++) {
+                OneEye x = Edge.threes(4);
+                String sayBoth = "say " + f + " to 0;lie " + f + " to 0;";
+                Check.plan(x, p / 3, "give eye " + p % 3 + ";see " + f + ";give mouth " + p % 3 + ";" + sayBoth);
+                x.minutes(5);
+                check.due("person " + p, x.liars(), 1 << p);
+            }
         }
     }
 
@@ -558,6 +614,21 @@ public final class BoundaryThoughtsTest {
         x.trust(0, 3, false);
         x.minutes(2);
         check.due("9 against 0, 3, 6", x.liars(), 1 << 9);
+    }
+
+    @Says("of all sets of sayers of THE BOOK")
+    static void promise25_linesThatAreGoneCountNoMore() {
+        for (String first : new String[] {"say", "lie"}) {
+            OneEye x = Edge.threes(2);
+            Check.plan(x, 0, "see 0;" + first + " 0 to 1;");
+            x.minutes(2);
+            x.image(true);
+            Check.plan(x, 0, first.equals("say") ? "lie 0 to 1;" : "say 0 to 1;");
+            x.minutes(1);
+            check.due("said both", x.liars(), 1);
+            x.image(false);
+            check.due("the second line is gone", x.liars(), 0);
+        }
     }
 
     @Says("of all sets of sayers of THE BOOK")
