@@ -9,6 +9,7 @@ import java.util.Set;
 import java.util.TreeSet;
 import java.util.regex.Matcher;
 import java.util.regex.Pattern;
+import java.util.stream.Stream;
 
 /** What can be seen of LANGUAGE.md's rules from the source and from the compiled class. */
 public final class LanguageTest {
@@ -61,8 +62,14 @@ public final class LanguageTest {
                 boolean fixed = !Modifier.isStatic(f.getModifiers()) || Modifier.isFinal(f.getModifiers());
                 check.due(f + " is no static state", fixed, true);
             }
+            check.due(inner + " has at most twenty fields", ownFields(inner) <= 20, true);
         }
+        check.due("the class has at most twenty fields", ownFields(OneEye.class) <= 20, true);
         check.due("at most twelve classes", OneEye.class.getDeclaredClasses().length < 12, true);
+    }
+
+    private static long ownFields(Class<?> of) {
+        return Stream.of(of.getDeclaredFields()).filter(f -> !Modifier.isStatic(f.getModifiers())).count();
     }
 
     private static void forbiddenWords(String code) {
